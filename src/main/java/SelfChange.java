@@ -686,21 +686,22 @@ public final class SelfChange {
         }
 
         void empty() {
-            begin(0, 0, 0);
-            place = 0;
-            deepest = 0;
-        }
-
-        void begin(int routine, int startA, int startB) {
             depth = 0;
             deepest = 0;
-            a = startA;
-            b = startB;
+            a = 0;
+            b = 0;
+            place = 0;
             byMembers = 0;
             walked = 0;
             dropped = 0;
             changes = 0;
             answer = GOING_ON;
+        }
+
+        void begin(int routine, int startA, int startB) {
+            empty();
+            a = startA;
+            b = startB;
             enter(routine, 0);
         }
 

@@ -161,7 +161,7 @@ public final class MembersTest {
         DUE.answer("none is back", x.member(0, 0), 0);
         DUE.answer("write", x.write(200, 1), 0);
         DUE.answer("undo()", x.undo(), 0);
-        DUE.answer("undo() to SWAP drops none", x.count(3), 1);
+        DUE.answer("the write of SWAP is KEPT", x.count(3), 1);
     }
 
     private static void memberRefused() {

@@ -158,9 +158,30 @@ public final class ReturnTest {
         DUE.answer("its bytes are not as they were", x.undo(), 0);
         DUE.answer("now they are", x.undo(), 100);
         x.write(17, 9);
-        x.snapshot();
-        DUE.answer("an operand is another one", x.restore(1), 0);
         DUE.answer("DROPPED three times", x.restore(0), 0);
+        operandsCount();
+        noneBackBesideAMember();
+    }
+
+    private static void operandsCount() {
+        SelfChange x = Stories.with(16, 1, 5, 0);
+        x.make();
+        x.write(17, 6);
+        x.snapshot();
+        DUE.answer("an operand is another one", x.restore(0), 0);
+        DUE.answer("it lies aside", x.member(0, 5), 1);
+        DUE.answer("the operand as it was", x.undo(), 100);
+    }
+
+    private static void noneBackBesideAMember() {
+        SelfChange x = Stories.with(16, 1, 5, 0);
+        x.make();
+        x.write(17, 6);
+        x.write(17, 5);
+        DUE.answer("make() of the same bytes", x.make(), 1);
+        x.write(200, 1);
+        DUE.answer("undo() with a member", x.undo(), 0);
+        DUE.answer("the other one lies aside", x.member(0, 5), 1);
     }
 
     private static void looksInOrder() {
@@ -211,12 +232,14 @@ public final class ReturnTest {
         SelfChange x = Stories.with(16, 5, 16, 0);
         x.routine(32);
         x.make();
+        x.run(1, 0, 0, 1);
+        x.run(1, 0, 0, 1);
         x.snapshot();
         for (int i = 0; i < 4; i++) {
             x.run(0, 9, 9, 9);
             x.undo();
         }
-        x.write(32, 3);
+        DUE.answer("a member is there still", x.page(2), 1);
         DUE.answer("clear()", x.clear(), 2);
         DUE.answer("as at the beginning", Stories.seen(x).equals(Stories.seen(new SelfChange())) ? 1 : 0, 1);
         DUE.answer("restore(0)", x.restore(0), SelfChange.UNKNOWN);
@@ -227,8 +250,12 @@ public final class ReturnTest {
             DUE.answer("member(0, " + what + ")", x.member(0, what), 0);
         }
         DUE.answer("make()", x.make(), 1);
+        DUE.answer("page(2) without the old member", x.page(2), 0);
         DUE.answer("run", x.run(0, 1, 2, 3), 1);
         DUE.answer("ran(3)", x.ran(3), 1);
+        x.write(16, 3);
+        x.run(0, 1, 2, 1);
+        DUE.answer("share() of the new steps alone", x.share(), 1);
         DUE.answer("snapshot()", x.snapshot(), 0);
     }
 }

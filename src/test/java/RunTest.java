@@ -258,6 +258,11 @@ public final class RunTest {
             DUE.answer("alike of " + steps, x.alike(0, steps, -steps, steps), 1);
         }
         DUE.answer("alike of 400", x.alike(0, 0, 0, 400), 1);
+        // A run that reads what it wrote: the walk must begin with MEMORY as it is now.
+        SelfChange grows = Stories.with(16, 4, 200, 2, 1, 5, 200, 0);
+        grows.make();
+        DUE.answer("alike of a run that grows a byte", grows.alike(0, 0, 0, 400), 1);
+        DUE.answer("the byte", grows.read(200), 0);
         DUE.answer("nothing changed", before.equals(Stories.seen(x)) ? 1 : 0, 1);
     }
 
