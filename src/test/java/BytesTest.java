@@ -6,9 +6,7 @@ public final class BytesTest {
         newObject();
         putBytes();
         putDrops();
-        putRefused();
         writeByte();
-        writeRefused();
         readPlaces();
         DUE.end();
     }
@@ -73,19 +71,6 @@ public final class BytesTest {
         DUE.answer("KEPT", x.count(3), 2);
     }
 
-    private static void putRefused() {
-        SelfChange x = new SelfChange();
-        String before = Stories.seen(x);
-        int[] places = {-1, 256, Integer.MIN_VALUE, Integer.MAX_VALUE, 0, 0, 0, 0, 0};
-        int[] lengths = {1, 1, 1, 1, 0, 9, -1, Integer.MIN_VALUE, Integer.MAX_VALUE};
-        for (int i = 0; i < places.length; i++) {
-            DUE.answer("put(" + places[i] + ", -1, " + lengths[i] + ")", x.put(places[i], -1L, lengths[i]), SelfChange.OUTSIDE);
-        }
-        DUE.answer("nothing changed", before.equals(Stories.seen(x)) ? 1 : 0, 1);
-        DUE.answer("put(255, 1, 1)", x.put(255, 1L, 1), 0);
-        DUE.answer("put(0, 1, 8)", x.put(0, 1L, 8), 0);
-    }
-
     private static void writeByte() {
         SelfChange x = Stories.with(16, 1, 2, 0);
         x.routine(18);
@@ -100,17 +85,6 @@ public final class BytesTest {
         DUE.answer("read(0)", x.read(0), 255);
         DUE.answer("write(255, 255)", x.write(255, 255), 0);
         DUE.answer("read(255)", x.read(255), 255);
-    }
-
-    private static void writeRefused() {
-        SelfChange x = new SelfChange();
-        String before = Stories.seen(x);
-        int[] wrong = {-1, 256, Integer.MIN_VALUE, Integer.MAX_VALUE};
-        for (int value : wrong) {
-            DUE.answer("write(" + value + ", 1)", x.write(value, 1), SelfChange.OUTSIDE);
-            DUE.answer("write(1, " + value + ")", x.write(1, value), SelfChange.OUTSIDE);
-        }
-        DUE.answer("nothing changed", before.equals(Stories.seen(x)) ? 1 : 0, 1);
     }
 
     private static void readPlaces() {

@@ -18,6 +18,23 @@ final class Due {
         }
     }
 
+    /** Two texts of lines, of which the first that differ are told. */
+    void same(String what, String got, String want) {
+        if (got.equals(want)) {
+            return;
+        }
+        wrong++;
+        String[] gotLines = got.split("\n");
+        String[] wantLines = want.split("\n");
+        int i = 0;
+        while (i < gotLines.length && i < wantLines.length && gotLines[i].equals(wantLines[i])) {
+            i++;
+        }
+        String gotLine = i < gotLines.length ? gotLines[i] : "nothing";
+        String wantLine = i < wantLines.length ? wantLines[i] : "nothing";
+        System.out.println(test + ": " + what + ": " + gotLine + ", due is " + wantLine);
+    }
+
     void exception(String call, Class<? extends RuntimeException> want, Call made) {
         String got = "no exception";
         try {

@@ -11,8 +11,6 @@ public final class MembersTest {
         makeCounts();
         walkedForGood();
         asideInPlaceOfAnother();
-        memberRefused();
-        headRefused();
         pages();
         DUE.end();
     }
@@ -162,38 +160,6 @@ public final class MembersTest {
         DUE.answer("write", x.write(200, 1), 0);
         DUE.answer("undo()", x.undo(), 0);
         DUE.answer("the write of SWAP is KEPT", x.count(3), 1);
-    }
-
-    private static void memberRefused() {
-        SelfChange x = Stories.with(16, 0);
-        int[] none = {-1, 1, 10, Integer.MIN_VALUE, Integer.MAX_VALUE};
-        for (int r : none) {
-            DUE.answer("member(" + r + ", 0)", x.member(r, 0), SelfChange.UNKNOWN);
-            DUE.answer("UNKNOWN ahead of OUTSIDE", x.member(r, 7), SelfChange.UNKNOWN);
-        }
-        int[] wrong = {-1, 7, Integer.MIN_VALUE, Integer.MAX_VALUE};
-        for (int what : wrong) {
-            DUE.answer("member(0, " + what + ")", x.member(0, what), SelfChange.OUTSIDE);
-        }
-        for (int what = 0; what < 6; what++) {
-            DUE.answer("member(0, " + what + ") without one", x.member(0, what), 0);
-        }
-    }
-
-    private static void headRefused() {
-        SelfChange x = Stories.with(16, 3, 0);
-        DUE.answer("head(1, 0)", x.head(1, 0), SelfChange.UNKNOWN);
-        DUE.answer("head(-1, -1)", x.head(-1, -1), SelfChange.UNKNOWN);
-        DUE.exception("head(0, 0) without a member", NullPointerException.class, () -> x.head(0, 0));
-        DUE.exception("head(0, -1) without a member", NullPointerException.class, () -> x.head(0, -1));
-        x.make();
-        DUE.answer("head(0, 1)", x.head(0, 1), 17);
-        int[] wrong = {-1, 2, 24, Integer.MIN_VALUE, Integer.MAX_VALUE};
-        for (int i : wrong) {
-            DUE.exception("head(0, " + i + ")", ArrayIndexOutOfBoundsException.class, () -> x.head(0, i));
-        }
-        x.write(16, 0);
-        DUE.exception("head(0, 0) behind a drop", NullPointerException.class, () -> x.head(0, 0));
     }
 
     private static void pages() {

@@ -5,7 +5,6 @@ public final class ReturnTest {
     public static void main(String[] args) {
         snapshots();
         restoreDropsAndBrings();
-        restoreRefused();
         keptStayAtRestore();
         undoInOrder();
         mostKept();
@@ -54,18 +53,6 @@ public final class ReturnTest {
         x.write(16, 0);
         DUE.answer("one is DROPPED, one BACK", x.restore(1), 101);
         DUE.answer("BACK in all", x.count(7), 5);
-    }
-
-    private static void restoreRefused() {
-        SelfChange x = new SelfChange();
-        x.write(9, 9);
-        x.snapshot();
-        x.write(9, 8);
-        int[] none = {-1, 1, 4, Integer.MIN_VALUE, Integer.MAX_VALUE};
-        for (int s : none) {
-            DUE.answer("restore(" + s + ")", x.restore(s), SelfChange.UNKNOWN);
-        }
-        DUE.answer("nothing changed", x.read(9), 8);
     }
 
     private static void keptStayAtRestore() {
@@ -241,7 +228,6 @@ public final class ReturnTest {
         }
         DUE.answer("a member is there still", x.page(2), 1);
         DUE.answer("clear()", x.clear(), 2);
-        DUE.answer("as at the beginning", Stories.seen(x).equals(Stories.seen(new SelfChange())) ? 1 : 0, 1);
         DUE.answer("restore(0)", x.restore(0), SelfChange.UNKNOWN);
         DUE.answer("undo()", x.undo(), SelfChange.STATE);
         DUE.answer("clear() again", x.clear(), 0);

@@ -11,7 +11,6 @@ public final class RunTest {
         spent();
         byMembers();
         dropsWithin();
-        runRefused();
         ranStays();
         alike();
         share();
@@ -214,28 +213,6 @@ public final class RunTest {
         DUE.answer("KEPT", x.count(3), 8);
     }
 
-    private static void runRefused() {
-        SelfChange x = Stories.with(16, 1, 4, 0);
-        x.run(0, 7, 8, 9);
-        String before = Stories.seen(x);
-        int[] none = {-1, 1, 10, Integer.MIN_VALUE, Integer.MAX_VALUE};
-        for (int r : none) {
-            DUE.answer("run(" + r + ")", x.run(r, 0, 0, 0), SelfChange.UNKNOWN);
-            DUE.answer("alike(" + r + ")", x.alike(r, 0, 0, 401), SelfChange.UNKNOWN);
-        }
-        int[] wrong = {0, -1, 401, Integer.MIN_VALUE, Integer.MAX_VALUE};
-        for (int steps : wrong) {
-            DUE.answer("run of " + steps, x.run(0, 0, 0, steps), SelfChange.OUTSIDE);
-            DUE.answer("alike of " + steps, x.alike(0, 0, 0, steps), SelfChange.OUTSIDE);
-        }
-        DUE.answer("nothing changed", before.equals(Stories.seen(x)) ? 1 : 0, 1);
-        int[] what = {-1, 9, Integer.MIN_VALUE, Integer.MAX_VALUE};
-        for (int w : what) {
-            DUE.answer("ran(" + w + ")", x.ran(w), -2000000002);
-            DUE.answer("ran(" + w + ") before any", new SelfChange().ran(w), -2000000002);
-        }
-    }
-
     private static void ranStays() {
         SelfChange x = Stories.with(16, 1, 4, 5, 200, 0);
         x.run(0, 7, 8, 9);
@@ -253,7 +230,6 @@ public final class RunTest {
         SelfChange x = Stories.with(16, 1, 3, 5, 20, 2, 1, 0);
         x.make();
         x.run(0, 1, 1, 1);
-        String before = Stories.seen(x);
         for (int steps = 1; steps < 9; steps++) {
             DUE.answer("alike of " + steps, x.alike(0, steps, -steps, steps), 1);
         }
@@ -263,7 +239,6 @@ public final class RunTest {
         grows.make();
         DUE.answer("alike of a run that grows a byte", grows.alike(0, 0, 0, 400), 1);
         DUE.answer("the byte", grows.read(200), 0);
-        DUE.answer("nothing changed", before.equals(Stories.seen(x)) ? 1 : 0, 1);
     }
 
     private static void share() {
