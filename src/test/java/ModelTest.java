@@ -3,8 +3,11 @@ import java.util.TreeMap;
 
 /** Many runs of calls, by seeds that are always the same, against the model. */
 public final class ModelTest {
-    private static final int RUNS = 1500;
+    private static final int RUNS = 6000;
+    // The document promises nothing about an object behind its 512th call.
     private static final int CALLS = 512;
+    private static final int MOST_OF_ONE_TURN = 32;
+    private static final int CALLS_FOR_EVERYTHING = 360;
     private static final String[] MUST_COME = {
         "back", "drop in a run", "drop of two", "for good", "answer -1", "answer -2", "answer -3",
         "answer -4", "answer 1", "by members and walked", "full kept", "share over 0"};
@@ -19,6 +22,7 @@ public final class ModelTest {
     private final Model model = new Model();
     private final TreeMap<String, Integer> came;
     private String call;
+    private int made;
 
     private ModelTest(Due due, long seed, TreeMap<String, Integer> came) {
         this.due = due;
@@ -39,12 +43,19 @@ public final class ModelTest {
         due.end();
     }
 
+    /** Every second run is a long one; the others leave room to ask for everything at their end. */
     private void calls(int seed) {
+        boolean isLong = seed % 2 == 1;
+        int most = CALLS - MOST_OF_ONE_TURN - (isLong ? 0 : CALLS_FOR_EVERYTHING);
         call("routine", place());
-        int calls = 40 + random.nextInt(CALLS - 40);
-        for (int i = 0; i < calls; i++) {
-            oneCall(seed);
+        while (made < most) {
+            oneTurn();
+            someQuestions(seed);
         }
+        if (!isLong) {
+            everything(seed);
+        }
+        due.answer("run " + seed + " keeps to the 512 calls", made <= CALLS ? 1 : 0, 1);
         note("full kept", model.kept.size() == 8);
         note("for good", model.count(8) > 0);
         note("share over 0", model.walkedInAll > 0 && model.share() > 0);
@@ -56,7 +67,7 @@ public final class ModelTest {
         }
     }
 
-    private void oneCall(int seed) {
+    private void oneTurn() {
         int pick = random.nextInt(100);
         if (pick < 8) {
             tellStory();
@@ -97,7 +108,6 @@ public final class ModelTest {
         } else if (random.nextInt(4) == 0) {
             call("clear");
         }
-        everythingElse(seed);
     }
 
     /** An ordinary number of so many, or one beside the edges. */
@@ -164,6 +174,7 @@ public final class ModelTest {
     private void call(String name, int... v) {
         call = name + java.util.Arrays.toString(v);
         long w = name.equals("put") ? word() : 0;
+        made++;
         String got = answer(() -> ofReal(name, w, v));
         String want = answer(() -> ofModel(name, w, v));
         if (!got.equals(want)) {
@@ -186,10 +197,31 @@ public final class ModelTest {
         }
     }
 
-    private void everythingElse(int seed) {
+    private void someQuestions(int seed) {
+        if (call.startsWith("run") && random.nextInt(2) == 0) {
+            askRan(seed);
+        }
+        int what = random.nextInt(9);
+        same(seed, "count", what, real.count(what), model.count(what));
+        int place = random.nextInt(40);
+        same(seed, "read", place, real.read(place), model.read(place));
+        if (!model.stories.isEmpty()) {
+            int r = random.nextInt(model.stories.size());
+            int of = random.nextInt(7);
+            same(seed, MEMBER_OF[r], of, real.member(r, of), model.member(r, of));
+        }
+    }
+
+    private void askRan(int seed) {
+        for (int what = 0; what < 9; what++) {
+            same(seed, "ran", what, real.ran(what), model.ran(what));
+        }
+    }
+
+    private void everything(int seed) {
+        askRan(seed);
         for (int what = 0; what < 9; what++) {
             same(seed, "count", what, real.count(what), model.count(what));
-            same(seed, "ran", what, real.ran(what), model.ran(what));
         }
         for (int r = 0; r < model.stories.size(); r++) {
             for (int what = 0; what < 7; what++) {
@@ -204,8 +236,9 @@ public final class ModelTest {
         }
     }
 
-    // A text is made only for what is wrong: there are many millions of answers.
+    // A text is made only for what is wrong: there are some millions of answers.
     private void same(int seed, String what, int of, long got, long want) {
+        made++;
         if (got != want) {
             due.answer("run " + seed + " behind " + call + ": " + what + " " + of, got, want);
         }
